@@ -13,7 +13,7 @@ public final class WaterBox {
     private static final int FACES = 49;
     private static final int MOST_PARTICLES = 24;
     private static final int MOST_ROUNDS = 40;
-    private static final int LEAST_LIMIT = 30;
+    private static final int MOST_HALVINGS = 30;
 
     private final State now = new State();
     private final State marked = new State();
@@ -85,7 +85,7 @@ public final class WaterBox {
 
     /** Sets the limit to 1 / 2^k and the rounds: the new limit. */
     public double solver(int k, int rounds) throws IllegalArgumentException {
-        if (k < 0 || k > LEAST_LIMIT) {
+        if (k < 0 || k > MOST_HALVINGS) {
             throw new IllegalArgumentException("k is not 0 .. 30");
         }
         if (rounds < 0 || rounds > MOST_ROUNDS) {
@@ -313,7 +313,9 @@ public final class WaterBox {
             share = other.share;
             limit = other.limit;
             rounds = other.rounds;
-            System.arraycopy(other.solids, 0, solids, 0, CELLS);
+            for (int at = 0; at < CELLS; at++) {
+                solids[at] = other.solids[at];
+            }
             particles = other.particles;
             System.arraycopy(other.x, 0, x, 0, MOST_PARTICLES);
             System.arraycopy(other.y, 0, y, 0, MOST_PARTICLES);

@@ -3,7 +3,7 @@ import java.util.function.Supplier;
 
 /** Runs of calls by a fixed seed, on the program and on PlainWater: all answers must be the same. */
 public final class ModelTest {
-    private static final int RUNS = 3000;
+    private static final int RUNS = 1000;
     private static final int CALLS = 250;
     private static final Check CHECK = new Check("ModelTest");
 
