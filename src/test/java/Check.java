@@ -7,9 +7,15 @@ final class Check {
     private final String test;
     private int asked = 0;
     private int wrong = 0;
+    private String sentence = "";
 
     Check(String test) {
         this.test = test;
+    }
+
+    /** The sentence of the document that the answers from here on stand for. */
+    void about(String sentence) {
+        this.sentence = " [" + sentence + "]";
     }
 
     void same(String call, double got, double want) {
@@ -69,7 +75,7 @@ final class Check {
     private void tell(String call, String got, String want) {
         wrong++;
         if (wrong <= 50) {
-            System.out.println(test + ": " + call + " answered " + got + ", due is " + want);
+            System.out.println(test + sentence + ": " + call + " answered " + got + ", due is " + want);
         }
     }
 

@@ -4,7 +4,8 @@ import java.util.function.Supplier;
 /** Runs of calls by a fixed seed, on the program and on PlainWater: all answers must be the same. */
 public final class ModelTest {
     private static final int RUNS = 1000;
-    private static final int CALLS = 250;
+    /** Some 230 more come at a run's end: in all not more than the 512 that the document speaks of. */
+    private static final int CALLS = 275;
     private static final Check CHECK = new Check("ModelTest");
 
     private final Random random;
@@ -14,6 +15,7 @@ public final class ModelTest {
     /** How wild a run is: some have few particles, some many solid cells. */
     private final int solids;
     private final int adds;
+    private int calls = 0;
 
     private ModelTest(int seed) {
         random = new Random(seed);
@@ -45,7 +47,7 @@ public final class ModelTest {
         for (int n = 0; n < adds; n++) {
             addOne();
         }
-        for (int n = solids + adds; n < CALLS; n++) {
+        while (calls < CALLS) {
             rounds = Math.max(rounds, anyCall());
         }
         compareAll();
@@ -144,7 +146,8 @@ public final class ModelTest {
             face(0, place / 6, place % 6);
             face(1, place % 6, place / 6);
         }
-        for (int k = 0; k < box.count(0); k++) {
+        int particles = box.count(0);
+        for (int k = 0; k < particles; k++) {
             for (int what = 0; what < 4; what++) {
                 int no = k;
                 int part = what;
@@ -154,6 +157,7 @@ public final class ModelTest {
     }
 
     private String both(String call, Supplier<Number> got, Supplier<Number> due) {
+        calls++;
         String answer = answerOf(got);
         CHECK.same(name + call, answer, answerOf(due));
         return answer;
