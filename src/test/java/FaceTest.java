@@ -32,7 +32,10 @@ public final class FaceTest {
 
     public static void main(String[] args) {
         Check check = new Check("FaceTest");
-        check.same("class is final", Modifier.isFinal(WaterBox.class.getModifiers()), true);
+        check.same("class", WaterBox.class.toGenericString(), "public final class WaterBox");
+        check.same("class above it", WaterBox.class.getSuperclass().getName(), "java.lang.Object");
+        check.same("interfaces", WaterBox.class.getInterfaces().length, 0);
+        check.same("open or not static classes inside", openClasses().toString(), "[]");
         check.same("NONE", WaterBox.NONE, -1);
 
         List<String> due = new ArrayList<>(List.of(METHODS));
@@ -54,6 +57,18 @@ public final class FaceTest {
         check.same("fields", fields.toString(), "[public static final int WaterBox.NONE]");
         check.same("private methods with a public one's name", sharedNames().toString(), "[]");
         check.end();
+    }
+
+    /** Those inside may be private or package-visible, and are static. */
+    private static List<String> openClasses() {
+        List<String> open = new ArrayList<>();
+        for (Class<?> inside : WaterBox.class.getDeclaredClasses()) {
+            int is = inside.getModifiers();
+            if (Modifier.isPublic(is) || Modifier.isProtected(is) || !Modifier.isStatic(is)) {
+                open.add(inside.getName());
+            }
+        }
+        return open;
     }
 
     private static List<String> openMethods() {

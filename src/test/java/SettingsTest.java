@@ -97,7 +97,7 @@ public final class SettingsTest {
         CHECK.same("above the first limit", onTheFloor().step(Math.nextUp(0.125)), 1);
     }
 
-    /** No box seems to need 20 rounds, so that the number is 20, and not less, shows only as 'enough'. */
+    /** No box seems to need 20 rounds, so that the number is 20 shows here only as 'enough'; InsideTest looks at it. */
     private static void roundsAtFirst() {
         WaterBox box = new WaterBox();
         for (int k = 0; k < 24; k++) {

@@ -165,6 +165,7 @@ public final class TermsTest {
         CHECK.same("one above it", Boxes.onTheFloor().step(Math.nextUp(0.125)), 1);
     }
 
+    /** InsideTest looks at the number itself. */
     private static void roundsAtFirst() {
         CHECK.about("The rounds are 20 at first: no box was found that needs more than 13 then");
         WaterBox box = new WaterBox();
